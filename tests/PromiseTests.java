@@ -258,6 +258,20 @@ public final class PromiseTests {
             faultAt(due, "bars if " + many("not ", 97) + "1=1", NONE);
             faultAt(due, many(" ", 396) + "bars", NONE);
         });
+        Due.test("12 law: each TEXT has its own PARTS and CLAUSES", due -> {
+            FolioStair x = Due.stair(9);
+            x.reader(1, 50);
+            due.is("fifty", Due.law(x, "bears 1" + many("+1", 49)), 0);
+            due.is("fifty again", Due.law(x, "bears 1" + many("+1", 48)), 1);
+            due.is("one that can't be", Due.law(x, "bears 99;bears 99;bears"), -6);
+            due.is("and again", Due.law(x, "bears 1;bears 2" + many("*1", 40)), 2);
+            x.force(0);
+            due.is("fifty bear", x.carries(0, 0), 1);
+            x.force(1);
+            due.is("less", x.carries(0, 0), 0);
+            x.force(2);
+            due.is("less", x.carries(0, 0), 0);
+        });
         Due.test("12 law: six laws", due -> {
             FolioStair x = new FolioStair();
             for (int l = 0; l < 6; l++) due.is("law", Due.law(x, "bars"), l);
@@ -349,8 +363,15 @@ public final class PromiseTests {
             for (int any : ANY) due.is("any", x.carries(any, 0) + x.carries(0, any), -2);
             due.is("2", x.carries(2, 0), NONE);
             due.is("1", x.carries(0, 1), NONE);
-            Due.law(x, "bears 10;bears 99 if hour>9");
+            Due.law(x, "bars if tread=1 and level=4 and reader=0");
             x.force(0);
+            due.is("TREAD 1", x.carries(1, 0), 0);
+            x.put(0, 1, 99);
+            due.is("TREAD 0", x.carries(0, 0), 1);
+            x.put(0, 0, 3);
+            due.is("LEVEL 5", x.carries(1, 0), 1);
+            Due.law(x, "bears 10;bears 99 if hour>9");
+            x.force(1);
             due.is("hour 9", x.carries(1, 0), 0);
             x.terms(0, 10);
             due.is("hour 10", x.carries(1, 0), 1);
@@ -552,6 +573,24 @@ public final class PromiseTests {
             due.is("no place left for TREAD 2", x.day(0), 2);
             due.is("out as told and then", x.day(2), 3);
         });
+        Due.test("23 day: two are STRANDED", due -> {
+            // LEVELS 3 6 7 10: both stand on TREAD 1, and 6 is too high above the GROUND without TREAD 0
+            FolioStair x = Due.stair(3, 3, 1, 3);
+            x.reader(3, 10);
+            x.reader(4, 10);
+            x.reader(9, 10);
+            x.ask(0, 2);
+            x.ask(1, 3);
+            x.ask(2, 0);
+            due.is("served", x.day(0), 7);
+            due.is("one", x.stands(0), 1);
+            due.is("the other beside him", x.stands(1), 1);
+            due.is("stranded", x.day(1), 3);
+            // all three only with TREAD 0 last
+            due.is("BEST", x.best(0) * 10 + x.best(1), 32);
+            due.is("first", x.best(3) * 100 + x.best(4) * 10 + x.best(5), 12);
+            due.is("orders", x.best(2), 2);
+        });
         Due.test("23 day: the nearest, then the lowest", due -> {
             // LEVELS 1 2 3 4 5, STRIDE 2: TREAD 3 (4) from LEVELS 2, 3 and 5; 2 is one STEP off
             FolioStair x = Due.stair(1, 1, 1, 1, 1);
@@ -605,6 +644,22 @@ public final class PromiseTests {
             for (int any : ANY) due.is("any", x.best(any), NONE);
             x.drop(1);
             due.is("asked anew after a change", x.best(5), NONE);
+        });
+        Due.test("25 best: fewest STRANDED", due -> {
+            // LEVELS 2 6 9; readers 0 and 1 want TREAD 2, from TREAD 1: only reader 1 comes down without TREAD 0
+            FolioStair x = Due.stair(2, 4, 3);
+            x.reader(4, 10);
+            x.reader(6, 10);
+            x.reader(40, 10);
+            x.ask(0, 2);
+            x.ask(1, 2);
+            x.ask(2, 0);
+            due.is("as told", x.day(0), 5);
+            due.is("as told", x.day(1), 1);
+            due.is("served", x.best(0), 2);
+            due.is("stranded", x.best(1), 0);
+            due.is("orders", x.best(2), 4);
+            due.is("first", x.best(3) * 100 + x.best(4) * 10 + x.best(5), 102);
         });
         Due.test("25 best: as the document counts", due -> {
             FolioStair x = Due.stair(3, 3);
@@ -664,6 +719,22 @@ public final class PromiseTests {
             due.is("built", x.built(0), 1);
             due.is("row", x.built(3), 1);
             due.is("ways", x.built(2), 1);
+        });
+        Due.test("26 built: the LAW's LEVEL", due -> {
+            // BOOKS 1 2 3, all in reach: only a BOOK at LEVEL 3 above another one carries
+            FolioStair x = Due.stair(1, 2, 3);
+            x.reader(3, 10);
+            x.ask(0, 2);
+            Due.law(x, "bars if not level=3;bars if tread=0");
+            x.force(0);
+            due.is("as told", x.day(0), 1);
+            x.turn(0, 0, 2);
+            due.is("never", x.built(0), 0);
+            x.turn(0, 0, 3);
+            due.is("some", x.built(0), 1);
+            // BOOK 2 lowest, or above both others, from TREAD 1 at LEVEL 3
+            due.is("ways", x.built(2), 4);
+            due.is("first", x.built(3) * 100 + x.built(4) * 10 + x.built(5), 12);
         });
         Due.test("27 build", due -> {
             FolioStair x = new FolioStair();
@@ -920,6 +991,59 @@ public final class PromiseTests {
             due.is("stays", x.back(1), 0);
             due.is("image not changed by what came", x.turn(0, 0, 1), 40);
         });
+        Due.test("36 image: ASKINGS and TOES as they were", due -> {
+            FolioStair x = Due.stair(3, 4);
+            x.reader(40, 30);
+            x.ask(0, 1);
+            x.toe(4);
+            x.image(1);
+            x.drop(0);
+            x.ask(0, 0);
+            x.lift();
+            x.toe(3);
+            due.is("asking now", x.day(2), 1);
+            due.is("toe now", x.places(0, 0), 0);
+            x.best(0);
+            x.built(0);
+            x.back(1);
+            due.is("asking then", x.day(2), 2);
+            due.is("toe then", x.places(0, 0), 1);
+        });
+        Due.test("25 best, 26 built: anew after each change", due -> {
+            FolioStair x = Due.stair(3, 3);
+            x.reader(3, 50);
+            x.ask(0, 1);
+            due.is("best", x.best(0) + x.built(0), 2);
+            x.turn(0, 0, 2);
+            due.is("turn", x.best(0) + x.built(0), 0);
+            x.turn(0, 0, 3);
+            x.put(0, 3, 1);
+            due.is("put", x.best(0), 0);
+            x.put(0, 3, 0);
+            Due.law(x, "bars");
+            x.best(0);
+            x.built(0);
+            x.force(0);
+            due.is("force", x.best(0), 0);
+            due.is("force", x.built(2), 1);
+            x.image(0);
+            x.force(NONE);
+            x.best(0);
+            x.back(0);
+            due.is("back", x.best(0), 0);
+            Due.law(x, "bars if hour=9");
+            x.force(1);
+            x.best(0);
+            x.terms(0, 10);
+            due.is("terms", x.best(0), 1);
+            x.swap(0, 1);
+            due.is("swap", x.best(0), 1);
+            x.drop(0);
+            due.is("drop", x.best(0), 0);
+            x.best(3);
+            x.ask(0, 0);
+            due.is("ask", x.best(3), 0);
+        });
         Due.test("36 image: laws, torn and days", due -> {
             FolioStair x = Due.stair(3, 4);
             x.reader(5, 30);
@@ -995,6 +1119,39 @@ public final class PromiseTests {
             x.drawn(0, 0);
             for (int w = 7; w < 12; w++) due.is("count " + w, x.count(w), 0);
             due.is("status", x.status(), 0);
+        });
+        Due.test("39 status: 0 behind each that was not REFUSED", due -> {
+            FolioStair x = Due.stair(3, 4);
+            x.swap(0, 0);
+            due.is("reader", x.reader(5, 5) + x.status(), 0);
+            x.swap(0, 0);
+            due.is("put", x.put(0, 0, 3) + x.status(), 3);
+            x.swap(0, 0);
+            due.is("turn", x.turn(0, 0, 5) + x.status(), 5);
+            x.swap(0, 0);
+            due.is("terms", x.terms(0, 9) + x.status(), 9);
+            x.swap(0, 0);
+            due.is("law", Due.law(x, "bars") + x.status(), 0);
+            x.swap(0, 0);
+            due.is("force", x.force(0) + x.status(), -1);
+            x.swap(0, 0);
+            due.is("ask", x.ask(0, 0) + x.status(), 0);
+            x.swap(0, 0);
+            due.is("drop", x.drop(0) + x.status(), 0);
+            x.swap(0, 0);
+            due.is("swap", x.swap(0, 1) + x.status(), 0);
+            x.swap(0, 0);
+            due.is("toe", x.toe(3) + x.status(), 1);
+            x.swap(0, 0);
+            due.yes("days", x.days(3, 1) >= 0 && x.status() == 0);
+            x.swap(0, 0);
+            Due.bytes(x, 0);
+            due.is("text leaves it", x.status(), -3);
+            due.is("row", x.row() + x.status(), 0);
+            x.swap(0, 0);
+            due.is("image", x.image(0) + x.status(), 0);
+            x.swap(0, 0);
+            due.is("build", x.build() >= 0 ? x.status() : 1, 0);
         });
         Due.test("39 status", due -> {
             FolioStair x = new FolioStair();

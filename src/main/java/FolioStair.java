@@ -81,10 +81,7 @@ public final class FolioStair {
         if (!isBookNumber(THICK, thick) || !isBookNumber(BEARS, bears)) {
             return refuse(BAD_NUMBER);
         }
-        if (told.treads >= MOST_TREADS) {
-            return refuse(NO_ROOM);
-        }
-        return done(told.addTread(thick, bears, 0));
+        return added(told.addTread(thick, bears, 0));
     }
 
     public int put(int tread, int what, int value) {
@@ -108,10 +105,7 @@ public final class FolioStair {
         if (!isReaderNumber(STRIDE, stride) || !isReaderNumber(WEIGHT, weight)) {
             return refuse(BAD_NUMBER);
         }
-        if (told.readerCount >= MOST_READERS) {
-            return refuse(NO_ROOM);
-        }
-        return done(told.addReader(stride, weight));
+        return added(told.addReader(stride, weight));
     }
 
     public int turn(int reader, int what, int value) {
@@ -185,7 +179,7 @@ public final class FolioStair {
         if (law == null) {
             return refuse(BAD_TEXT);
         }
-        return done(told.addLaw(law));
+        return added(told.addLaw(law));
     }
 
     public int fault() {
@@ -248,10 +242,7 @@ public final class FolioStair {
         if (!told.hasReader(reader) || !told.hasTread(tread)) {
             return refuse(NO_SUCH);
         }
-        if (told.askingCount >= MOST_ASKINGS) {
-            return refuse(NO_ROOM);
-        }
-        return done(told.addAsking(reader, tread));
+        return added(told.addAsking(reader, tread));
     }
 
     public int drop(int asking) {
@@ -378,10 +369,7 @@ public final class FolioStair {
         if (!isBookNumber(THICK, thick)) {
             return refuse(BAD_NUMBER);
         }
-        if (told.toeCount >= MOST_TOES) {
-            return refuse(NO_ROOM);
-        }
-        return done(told.addToe(thick));
+        return added(told.addToe(thick));
     }
 
     public int lift() {
@@ -420,7 +408,7 @@ public final class FolioStair {
         if (!within(i, 0, dayBook.length - 1) || !within(what, 0, 2)) {
             return NONE;
         }
-        return dayBook.pages[i][what];
+        return dayBook.pages[what][i];
     }
 
     public int image(int k) {
@@ -486,6 +474,10 @@ public final class FolioStair {
         return answer;
     }
 
+    private int added(int number) {
+        return number == NONE ? refuse(NO_ROOM) : done(number);
+    }
+
     private static boolean within(int value, int lowest, int highest) {
         return lowest <= value && value <= highest;
     }
@@ -505,17 +497,14 @@ public final class FolioStair {
     }
 
     private boolean takeTread(int at) {
-        if (at + 2 >= tape.length || told.treads >= MOST_TREADS) {
+        if (at + 2 >= tape.length) {
             return false;
         }
         int thick = tape.bytes[at];
         int bears = tape.bytes[at + 1];
         int dust = tape.bytes[at + 2];
-        if (!isBookNumber(THICK, thick) || !isBookNumber(BEARS, bears) || !isBookNumber(DUST, dust)) {
-            return false;
-        }
-        told.addTread(thick, bears, dust);
-        return true;
+        boolean canBe = isBookNumber(THICK, thick) && isBookNumber(BEARS, bears) && isBookNumber(DUST, dust);
+        return canBe && told.addTread(thick, bears, dust) != NONE;
     }
 
     private void lookAtOne(int reader) {
@@ -622,6 +611,8 @@ public final class FolioStair {
             return within(reader, 0, readerCount - 1);
         }
 
+        // Each of these that add tells NONE where there is no room.
+
         int addTread(int thick, int bears, int dust) {
             if (treads >= MOST_TREADS) {
                 return NONE;
@@ -673,10 +664,7 @@ public final class FolioStair {
         }
 
         void removeAsking(int asking) {
-            if (!within(asking, 0, askingCount - 1)) {
-                return;
-            }
-            for (int behind = asking + 1; behind < askingCount; behind++) {
+            for (int behind = Math.max(asking, 0) + 1; behind < askingCount; behind++) {
                 askings[WHO][behind - 1] = askings[WHO][behind];
                 askings[WANTED][behind - 1] = askings[WANTED][behind];
             }
@@ -1595,8 +1583,8 @@ public final class FolioStair {
     /** Tries all rows of the BOOKS. */
     private static final class Builds {
         final Score score = new Score();
-        /** By the BOOKS below, as bits, and the BOOK: the READERS whom it would carry there, as bits. */
-        private final int[][] carried = new int[1 << MOST_BUILT][MOST_BUILT];
+        /** By the BOOK and the BOOKS below it, as bits: the READERS whom it would carry there, as bits. */
+        private final int[][] carried = new int[MOST_BUILT][1 << MOST_BUILT];
         private final int[] row = new int[MOST_BUILT];
         private final int[] seats = new int[MOST_BUILT];
 
@@ -1625,7 +1613,7 @@ public final class FolioStair {
                         readers |= 1 << reader;
                     }
                 }
-                carried[below][book] = readers;
+                carried[book][below] = readers;
             }
         }
 
@@ -1660,7 +1648,7 @@ public final class FolioStair {
             int bits = 0;
             int below = 0;
             for (int tread = 0; tread < treads && tread < MOST_BUILT; tread++) {
-                bits |= (carried[below][row[tread]] >> reader & 1) << tread;
+                bits |= (carried[row[tread]][below] >> reader & 1) << tread;
                 below |= 1 << row[tread];
             }
             return bits;
@@ -1671,7 +1659,8 @@ public final class FolioStair {
     private static final class DayBook {
         private static final int ASKINGS_A_DAY = 6;
 
-        final int[][] pages = new int[MOST_DAYS][3];
+        /** By what drawn() is asked and the DAY. */
+        final int[][] pages = new int[3][MOST_DAYS];
         int length;
         private int seed;
 
@@ -1681,10 +1670,10 @@ public final class FolioStair {
             int served = 0;
             for (int day = 0; day < length; day++) {
                 scene.lay(told, IN_PLACE);
-                pages[day][0] = serveDrawn(told, scene);
-                pages[day][1] = scene.strandedReaders();
-                pages[day][2] = scene.outTreads();
-                served += pages[day][0];
+                pages[0][day] = serveDrawn(told, scene);
+                pages[1][day] = scene.strandedReaders();
+                pages[2][day] = scene.outTreads();
+                served += pages[0][day];
             }
             return served;
         }
