@@ -260,6 +260,18 @@ final class BoundaryLaws {
                 due.is("LAW " + l, x.carries(0, 0), carried[l]);
             }
         });
+        Due.test("12 six LAWS of 50 PARTS, behind as many that can't be", due -> {
+            FolioStair x = Due.stair(9);
+            x.reader(1, 50);
+            for (int l = 0; l < 6; l++) {
+                due.is("51 PARTS", Due.law(x, "bears 1" + many("+1", 50)), -6);
+                due.is("50 PARTS", Due.law(x, "bears " + l % 2 + many("+1", 49)), l);
+            }
+            for (int l = 0; l < 6; l++) {
+                x.force(l);
+                due.is("LAW " + l, x.carries(0, 0), l % 2);
+            }
+        });
         Due.test("12 a TEXT of 400 bytes", due -> {
             faultAt(due, "bears 1" + many(" ", 393), NONE);
             faultAt(due, many(" ", 396) + "bars", NONE);
@@ -383,6 +395,16 @@ final class BoundaryLaws {
             faultAt(due, "bars if " + many("(", 8) + "1=1" + many(")", 8), NONE);
             faultAt(due, "bars if " + many("(", 9) + "1=1" + many(")", 9), 16);
             faultAt(due, "bears " + many("[", 300), 14);
+        });
+        Due.test("15 what waits in 8 brackets", due -> {
+            String sums = "=1+1*" + many("[1+1*", 8) + "1" + many("]", 8);
+            due.is("10", under("bars if 10" + sums), 0);
+            due.is("9", under("bars if 9" + sums), 1);
+            String both = "=1+1*" + many("[1+1*", 4) + "1" + many("]", 4) + many(")", 4);
+            for (String ahead : new String[] {"(1=1 and ", "(1=2 or "}) {
+                due.is("6", under("bars if " + many(ahead, 4) + "6" + both), 0);
+                due.is("5", under("bars if " + many(ahead, 4) + "5" + both), 1);
+            }
         });
         Due.test("12 brackets of both kinds together", due -> {
             faultAt(due, "bars if " + many("(", 7) + "[1]=1" + many(")", 7), NONE);
@@ -630,6 +652,14 @@ final class BoundaryLaws {
             test(due, "0-1000*1000*1000-1<0", BROKEN);
             test(due, "[0-1000]*1000*1000<0", 1);
             test(due, "[0-1000]*1000*1000*2<0", BROKEN);
+        });
+        Due.test("15 what is BROKEN is so each time that it is asked, and all else stays", due -> {
+            FolioStair x = Due.stair(1);
+            x.reader(1, 50);
+            x.force(Due.law(x, "bears 1+1*[1+1*[1+1*[1/0]]];bars if 1=1+1*[1/0];bears 50;bars if 2=1+1*[1/0]"));
+            for (int k = 0; k < 100; k++) due.is("carries", x.carries(0, 0), 1);
+            x.turn(0, 1, 51);
+            for (int k = 0; k < 100; k++) due.is("does not", x.carries(0, 0), 0);
         });
         Due.test("15 divided by 0", due -> {
             test(due, "1/0=0", BROKEN);

@@ -192,6 +192,15 @@ final class BoundaryWalks {
             choices(due, "all others", frees(twelve(12)), 11, 2047, 1, 2048);
             choices(due, "two TREADS", frees(walked(2, 1, 1)), 1, 1, 1, 2);
         });
+        Due.test("18 the TOP is the highest TREAD: each new one is it", due -> {
+            FolioStair x = walked(2, 1);
+            choices(due, "one", frees(x), 0, 0, 1, 1);
+            x.tread(1, 99);
+            choices(due, "two", frees(x), 1, 1, 1, 2);
+            x.tread(1, 49);
+            choices(due, "one that does not carry", frees(x), NONE, NONE, 0, 0);
+            choices(due, "cut", cuts(x), 0, 0, 1);
+        });
         Due.test("18 the most, the lowest as bits, in how many ways", due -> {
             // LEVELS 1 .. 12, STRIDE 11: one of the eleven below must be in
             choices(due, "all but one", frees(twelve(11)), 10, 1023, 11, 2047);
@@ -373,6 +382,16 @@ final class BoundaryWalks {
             tracksOf(due, x, 7, 13, 4, 0);
             tracksOf(due, x, 5, 1, 1, 1);
             tracksOf(due, x, 6, 1, 2, 2);
+        });
+        Due.test("29 WAYS as all is: not by TREADS that are OUT", due -> {
+            FolioStair x = walked(2, 1, 1, 1);
+            tracksOf(due, x, 5, 1, 1, 1);
+            x.put(0, 3, 1);
+            tracksOf(due, x, 5, 0, NONE, NONE);
+            tracksOf(due, x, 6, 1, 1, 1);
+            x.put(2, 3, 1);
+            tracksOf(due, x, 6, 0, NONE, NONE);
+            tracksOf(due, x, 0, 1, 0, 0);
         });
         Due.test("29 six READERS", due -> {
             FolioStair x = Due.stair(1);

@@ -50,7 +50,8 @@ public final class RandomRuns {
         for (int i = draw.nextInt(5); i > 0; i--) call("reader");
         for (int i = draw.nextInt(3); i > 0; i--) law();
         for (int i = draw.nextInt(mostAskings + 1); i > 0; i--) call("ask");
-        for (int i = 0; i < calls && wrong == 0; i++) {
+        // A LAW takes some thirty calls, and 512 are promised.
+        for (int i = 0; i < calls && wrong == 0 && told.size() < 480; i++) {
             if (draw.nextInt(25) == 0) law();
             else if (draw.nextInt(25) == 0) row();
             else call(CALLS[draw.nextInt(CALLS.length)]);
