@@ -693,6 +693,13 @@ final class BoundaryLaws {
             test(due, "(1=1 or 1/0=0) and 1=2", 0);
             test(due, "not 1=1 or not 1=2", 1);
         });
+        Due.test("15 or, and of 25 comparisons: 50 PARTS", due -> {
+            test(due, many("1=2 or ", 24) + "1=1", 1);
+            test(due, many("1=2 or ", 24) + "1=2", 0);
+            test(due, many("1=1 and ", 24) + "1=2", 0);
+            test(due, many("1=1 and ", 24) + "1=1", 1);
+            test(due, many("1=1 and ", 23) + "1/0=1", BROKEN);
+        });
         Due.test("15 a part that was asked and is BROKEN makes all of it BROKEN", due -> {
             test(due, "1/0=0 or 1=1", BROKEN);
             test(due, "1/0=0 and 1=2", BROKEN);
