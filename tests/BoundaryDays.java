@@ -253,6 +253,19 @@ final class BoundaryDays {
             x.terms(1, 3);
             due.is("down by 6", x.day(1), 0);
         });
+        Due.test("23 by each of the places that are as near", due -> {
+            // LEVELS 5 9 10 14: from 9 he comes to 5 and 10 by one STEP, to the GROUND only from 5
+            FolioStair x = BoundaryWalks.walked(5, 5, 4, 1, 4);
+            x.ask(0, 3);
+            due.is("stands on TREAD 1", x.stands(0), 1);
+            dayIs(due, x, 1, 0, 8);
+            x.put(0, 1, 49);
+            x.terms(1, 4);
+            due.is("not without TREAD 0", x.day(0), 0);
+            x.put(0, 1, 50);
+            x.put(2, 3, 1);
+            dayIs(due, x, 1, 0, 12);
+        });
         Due.test("23 up first, then down", due -> {
             // LEVELS 3 6 8 9: READER 0 on TREAD 1 comes down by no TREAD below; all are too high without TREAD 0
             FolioStair x = BoundaryWalks.walked(3, 3, 3, 2, 1);
@@ -425,6 +438,49 @@ final class BoundaryDays {
             x.force(1);
             // BOOK 1 lowest is the only one that carries: BOOK 2 just above it, or lowest itself
             row(due, "LEVEL 2", x, true, 1, 0, 3, 1, 2, 0);
+        });
+        Due.test("26 the LEVEL, the number of a TREAD above two others", due -> {
+            // BOOK 3 is had from the GROUND, lowest, or from TREAD 2 at LEVEL 7, the TOP: six ways each
+            FolioStair x = BoundaryWalks.walked(8, 1, 2, 4, 8);
+            x.ask(0, 3);
+            Due.law(x, "bars if not level=7");
+            Due.law(x, "bars if not tread=2");
+            Due.law(x, "bars if not level=6");
+            for (int law = 0; law < 2; law++) {
+                x.force(law);
+                row(due, "LAW " + law, x, true, 1, 0, 12, 0, 1, 2, 3);
+            }
+            // LEVEL 6 is that of BOOKS 1 and 2 together: BOOK 3 is had from there just above them alone, at 14
+            x.force(2);
+            row(due, "LEVEL 6", x, true, 1, 0, 8, 1, 2, 3, 0);
+        });
+        Due.test("26 each READER who asks is carried or not by himself", due -> {
+            // BOOKS 1 and 2 above BOOK 0: both READERS stand on it; below it: both on the GROUND
+            FolioStair x = BoundaryWalks.walked(4, 4, 1, 1);
+            x.reader(4, 50);
+            x.ask(0, 1);
+            x.ask(1, 2);
+            row(due, "both", x, true, 2, 0, 4, 0, 1, 2);
+            x.turn(0, 1, 99);
+            row(due, "one of WEIGHT 99", x, true, 2, 0, 4, 0, 1, 2);
+            x.put(0, 1, 98);
+            row(due, "whom BOOK 0 does not carry", x, true, 2, 0, 2, 1, 2, 0);
+            x.turn(0, 1, 50);
+            x.turn(1, 1, 99);
+            row(due, "the other one", x, true, 2, 0, 2, 1, 2, 0);
+        });
+        Due.test("26 READERS who ask nothing are no matter", due -> {
+            FolioStair x = Due.stair(9, 1, 3);
+            x.reader(1, 99);
+            x.reader(4, 50);
+            x.reader(40, 1);
+            x.ask(1, 2);
+            row(due, "READER 1 asks", x, true, 1, 0, 3, 1, 2, 0);
+        });
+        Due.test("26 seven ASKINGS, six TREADS", due -> {
+            FolioStair x = BoundaryWalks.walked(40, 1, 1, 1, 1, 1, 1);
+            for (int a = 0; a < 7; a++) x.ask(0, a % 6);
+            row(due, "all from the GROUND", x, true, 6, 0, 720, 0, 1, 2, 3, 4, 5);
         });
         Due.test("26 the first as a row of BOOKS by TREADS", due -> {
             // BOOK 2 lowest, or in the middle above BOOK 1: its own LEVEL must be 4 at most

@@ -272,6 +272,17 @@ final class BoundaryLaws {
                 due.is("LAW " + l, x.carries(0, 0), l % 2);
             }
         });
+        Due.test("12 bytes that end() cut are no part of the TEXT", due -> {
+            String[] texts = {"bears |1", "bears 1+|1", "bars if 1=|1", "bears 1|001", "bears [1|]", "bears |thick", "bars |x", "bars |;"};
+            int[] faults = {6, 8, 10, NONE, 8, 6, NONE, NONE};
+            for (int k = 0; k < texts.length; k++) {
+                FolioStair x = new FolioStair();
+                Due.text(x, texts[k].replace("|", ""));
+                x.end(texts[k].indexOf('|'));
+                due.is("law " + texts[k], x.law(), faults[k] == NONE ? 0 : -6);
+                due.is("fault " + texts[k], x.fault(), faults[k]);
+            }
+        });
         Due.test("12 a TEXT of 400 bytes", due -> {
             faultAt(due, "bears 1" + many(" ", 393), NONE);
             faultAt(due, many(" ", 396) + "bars", NONE);
@@ -720,6 +731,16 @@ final class BoundaryLaws {
             due.is("so", under("bears 0 if thick=4"), 0);
             due.is("not so", under("bears 0 if thick=5"), 1);
             due.is("bars not so", under("bars if thick=5"), 1);
+        });
+        Due.test("15 a CLAUSE's SUM is what it tells, whatever its if asks", due -> {
+            due.is("or, the second", under("bears 50 if 1=2 or 1=1"), 1);
+            due.is("or, the third", under("bears 49 if 1=2 or 1=2 or 1=1"), 0);
+            due.is("or, the first", under("bears 50 if 1=1 or 1=2"), 1);
+            due.is("and", under("bears 50 if 1=1 and 1=1 and 1=1"), 1);
+            due.is("and", under("bears 49 if 1=1 and 1=1 and 1=1"), 0);
+            due.is("not", under("bears 50 if not(1=2 or 1=2 and 1=1)"), 1);
+            due.is("none is so", under("bears 0 if 1=2 or 1=2 and 1=1"), 1);
+            due.is("SUMs within", under("bears 49+1 if [1+[2*3]]=7 and (2=3 or 4>3)"), 1);
         });
         Due.test("15 a BROKEN SUM does not HOLD", due -> {
             due.is("alone", under("bears 0*1/0"), 1);

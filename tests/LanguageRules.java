@@ -13,11 +13,16 @@ public final class LanguageRules {
     private static final Set<String> FACE = Set.of("tread", "put", "of", "reader", "turn", "terms", "feed", "end", "row", "torn",
         "law", "fault", "force", "carries", "comes", "way", "free", "cut", "boards", "ask", "drop", "day", "stands", "best", "built",
         "build", "swap", "tracks", "sorted", "toe", "lift", "places", "days", "drawn", "image", "back", "count", "status");
-    private static final Set<String> LIBRARY = Set.of("String.length", "String.charAt", "Integer.bitCount", "Math.max", "Math.min",
-        "Math.abs", "System.arraycopy", "Arrays.copyOf", "Arrays.copyOfRange", "Arrays.fill", "Object.<init>");
+    private static final Set<String> LIBRARY = Set.of("String.length", "String.charAt", "String.isEmpty", "String.equals",
+        "String.indexOf", "String.substring", "String.toCharArray", "String.<init>", "StringBuilder.<init>", "StringBuilder.append",
+        "StringBuilder.charAt", "StringBuilder.setCharAt", "StringBuilder.setLength", "StringBuilder.deleteCharAt",
+        "StringBuilder.reverse", "StringBuilder.length", "StringBuilder.toString", "System.arraycopy", "Arrays.copyOf",
+        "Arrays.copyOfRange", "Arrays.fill", "Object.<init>", "Record.<init>", "Enum.<init>", "List.of");
+    private static final Set<String> LISTS = Set.of("<init>", "add", "get", "set", "remove", "size", "isEmpty", "clear");
+    private static final Set<String> TYPES = Set.of("java.lang.String", "java.lang.StringBuilder", "java.lang.Integer",
+        "java.util.ArrayList", "java.util.List", "java.util.Iterator");
     private static final Set<Tree.Kind> OUTSIDE = EnumSet.of(Tree.Kind.THROW, Tree.Kind.TRY, Tree.Kind.CATCH, Tree.Kind.SYNCHRONIZED,
-        Tree.Kind.ASSERT, Tree.Kind.LAMBDA_EXPRESSION, Tree.Kind.MEMBER_REFERENCE, Tree.Kind.INSTANCE_OF, Tree.Kind.TYPE_CAST,
-        Tree.Kind.ENUM, Tree.Kind.INTERFACE, Tree.Kind.RECORD, Tree.Kind.WHILE_LOOP, Tree.Kind.DO_WHILE_LOOP);
+        Tree.Kind.ASSERT, Tree.Kind.LAMBDA_EXPRESSION, Tree.Kind.MEMBER_REFERENCE);
 
     private static final List<String> faults = new ArrayList<>();
     private static final Map<Element, Set<Element>> calls = new LinkedHashMap<>();
@@ -80,7 +85,7 @@ public final class LanguageRules {
         private Element here() { return trees.getElement(getCurrentPath()); }
 
         @Override public Void scan(Tree tree, Void v) {
-            if (tree != null) hold(!OUTSIDE.contains(tree.getKind()), "2, 6 or 9: " + tree.getKind() + " at line " + line(tree, true));
+            if (tree != null) hold(!OUTSIDE.contains(tree.getKind()), "2 or 6: " + tree.getKind() + " at line " + line(tree, true));
             return super.scan(tree, v);
         }
 
@@ -94,14 +99,17 @@ public final class LanguageRules {
             boolean outer = classes == 0;
             classes++;
             hold(classes <= 12, "11: more than twelve classes");
-            hold(how.contains(Modifier.FINAL) && (outer ? how.contains(Modifier.PUBLIC) : how.contains(Modifier.STATIC)
-                    && !how.contains(Modifier.PUBLIC) && !how.contains(Modifier.PROTECTED)), "1 or 2: class " + tree.getSimpleName());
+            // Enums, records and interfaces are static without the word.
+            boolean still = tree.getKind() != Tree.Kind.CLASS || how.contains(Modifier.STATIC);
+            hold(outer ? how.contains(Modifier.PUBLIC) && how.contains(Modifier.FINAL)
+                    : still && !how.contains(Modifier.PUBLIC) && !how.contains(Modifier.PROTECTED), "1 or 2: class " + tree.getSimpleName());
             int fields = 0;
             for (Tree member : tree.getMembers()) {
                 if (member instanceof VariableTree field) {
                     Set<Modifier> so = field.getModifiers().getFlags();
+                    boolean constant = tree.getKind() == Tree.Kind.ENUM && tree.getSimpleName().contentEquals(field.getType().toString());
                     if (!so.contains(Modifier.STATIC)) fields++;
-                    else hold(so.contains(Modifier.FINAL) && Set.of("int", "long", "boolean", "char", "String", "int[]", "long[]", "char[]",
+                    else hold(constant || so.contains(Modifier.FINAL) && Set.of("int", "long", "boolean", "char", "String", "int[]", "long[]", "char[]",
                             "byte[]").contains(field.getType().toString()), "5: " + field.getName());
                     hold(!outer || so.contains(Modifier.PRIVATE) || field.getName().contentEquals("NONE"), "1: " + field.getName());
                 }
@@ -138,8 +146,7 @@ public final class LanguageRules {
         private void note(ExecutableElement called) {
             TypeElement of = (TypeElement) called.getEnclosingElement();
             if (of.getQualifiedName().toString().startsWith("java.")) {
-                String name = of.getSimpleName() + "." + called.getSimpleName();
-                hold(LIBRARY.contains(name), "4: " + name);
+                hold(isListed(of.getSimpleName().toString(), called), "4: " + of + "." + called);
                 return;
             }
             for (TreePath path = getCurrentPath(); path != null; path = path.getParentPath()) {
@@ -150,12 +157,26 @@ public final class LanguageRules {
             }
         }
 
+        private boolean isListed(String of, ExecutableElement called) {
+            String name = called.getSimpleName().toString();
+            if (of.equals("Integer") || of.equals("Long") || of.equals("Math")) {
+                boolean whole = called.getModifiers().contains(Modifier.STATIC) && !name.endsWith("Exact");
+                for (VariableElement part : called.getParameters()) {
+                    whole &= part.asType().getKind() == TypeKind.INT || part.asType().getKind() == TypeKind.LONG;
+                }
+                return whole;
+            }
+            if (of.equals("ArrayList") || of.equals("List")) return LISTS.contains(name) || name.equals("of");
+            return LIBRARY.contains(of + "." + name);
+        }
+
         @Override public Void visitVariable(VariableTree tree, Void v) {
             TypeMirror type = here().asType();
             int dimensions = 0;
             for (; type.getKind() == TypeKind.ARRAY; dimensions++) type = ((javax.lang.model.type.ArrayType) type).getComponentType();
             hold(dimensions <= (type.getKind().isPrimitive() ? 2 : 1), "3: " + tree.getName());
-            hold(type.getKind().isPrimitive() || type.toString().equals("java.lang.String") || type.toString().startsWith("FolioStair."),
+            String bare = type.toString().replaceFirst("<.*", "");
+            hold(type.getKind().isPrimitive() || type.getKind() == TypeKind.TYPEVAR || TYPES.contains(bare) || bare.startsWith("FolioStair."),
                     "3: " + tree.getName() + " is a " + type);
             return super.visitVariable(tree, v);
         }

@@ -14,10 +14,22 @@ public final class PromiseTests {
         tracksSortedToes();
         daysAndImages();
         counts();
+        shown();
         Due.close();
     }
 
     private static String many(String part, int times) { return part.repeat(times); }
+
+    private static void shown() {
+        Due.test("the calls that README.md shows", due -> {
+            FolioStair x = new FolioStair();
+            int[] got = {x.tread(3, 50), x.tread(3, 50), x.reader(6, 30), x.comes(0), x.way(0, 1, -1), x.ask(0, 1), x.day(0), x.stands(0),
+                x.feed(0x62617273, 0x20696620, 0x74726561, 0x643d3120, 0), x.end(16), x.law(), x.force(0), x.carries(1, 0), x.tread(0, 50),
+                x.status()};
+            int[] want = {0, 1, 0, 3, 1, 0, 1, 100, 20, 16, 0, -1, 0, -1, -1};
+            for (int k = 0; k < want.length; k++) due.is("call " + k, got[k], want[k]);
+        });
+    }
 
     private static void treadsAndReaders() {
         Due.test("1 a new object", due -> {
